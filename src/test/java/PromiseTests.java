@@ -129,6 +129,13 @@ public final class PromiseTests {
     dueFault("arc0 1", -1);
     dueFault("arc 0 1arc", 7);
     dueFault("arcs 0 1", 0);
+    dueFault("arcz 0 1", 0);
+    dueFault("arca 0 1", 0);
+    dueFault("arc{0 1", 3);
+    dueFault("arc`0 1", 3);
+    dueFault("arc 0 1/", 7);
+    dueFault("arc 0 1:", 7);
+    dueFault("net 9;arc 9 0", 10);
     dueFault("ar 0 1", 0);
     dueFault("Arc 0 1", 0);
     dueFault("0 1", 0);
@@ -519,6 +526,7 @@ public final class PromiseTests {
     due("add(0, 1, 0, 40)", x.add(0, 1, 0, 40), ReachTrees.UNKNOWN);
     due("add(0, 1, 0, 100)", x.add(0, 1, 0, 100), ReachTrees.UNKNOWN);
     due("add(0, 1, 0, -10)", x.add(0, 1, 0, -10), ReachTrees.UNKNOWN);
+    due("add(0, 1, 0, 0)", x.add(0, 1, 0, 0), ReachTrees.UNKNOWN);
     due("add(0, 2, 0, 1)", x.add(0, 2, 0, 1), ReachTrees.OUTSIDE);
     due("add(0, -1, 0, 1)", x.add(0, -1, 0, 1), ReachTrees.OUTSIDE);
     due("add(0, 0, -1, 1)", x.add(0, 0, -1, 1), ReachTrees.OUTSIDE);
