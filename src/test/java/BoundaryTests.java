@@ -279,7 +279,7 @@ public final class BoundaryTests {
     sentence("each is one of: net N. arc U V. ring U V W. path U V W. star U V W (as written here)");
     noFault("", "net 4;arc 0 1;ring 0 1 2;path 0 1 2;star 0 1 2", 5);
     for (String word : new String[] {"ne", "nets", "nett", "ar", "arcs", "rin", "rings", "pat", "paths", "sta", "stars",
-        "a", "z", "netarc", "edge"}) {
+        "a", "z", "netarc", "edge", "xet", "nxt", "nex", "xrc", "xing", "xath", "xtar", "stax"}) {
       faultOf("", word + " 2", 0);
     }
     for (String word : new String[] {"Net 4", "NET 4", "0 1", "12", ",", "."}) faultOf("", word, 0);
@@ -652,6 +652,10 @@ public final class BoundaryTests {
     // No arc brings anything: the first that is not there.
     taken(told("ring 0 1 2;ring 2 3 0"), "best", 3);
     taken(told("net 10"), "best", 1);
+    sentence("BEST, WORST, GAIN, LOSS of ten POINTS: the last ARC in ORDER is told too");
+    inTurn(told("net 10;arc 9 8"), "worst", 98, "loss 9 8", 1, "gain 8 9 0", 1, "gain 8 9 1", 3, "best", 9);
+    inTurn(then(told("net 10"), "put 8 7 | put 9 8"), "worst", 87, "loss 8 7", 2, "loss 9 8", 2, "gain 7 9 0", 3,
+        "gain 7 9 1", 3 + 2 + 1);
   }
 
   private static void losses() {
@@ -660,6 +664,8 @@ public final class BoundaryTests {
     refused("", "loss 0 1", UNKNOWN);
     taken("put 0 1", "loss 0 1", 1);
     taken("put 0 1 | put 1 2 | put 0 2", "loss 0 2", 0);
+    // Without 1 2 the tree of 0 keeps 1 and, by 0 3, 3; those of 0 and 1 lose 2 alone.
+    taken("put 0 1 | put 1 2 | put 0 3", "loss 1 2", 2);
     sentence("WORST: of several the first; none");
     taken("", "worst", NONE);
     taken("put 0 1 | undo", "worst", NONE);
@@ -761,6 +767,7 @@ public final class BoundaryTests {
     sentence("comes behind (end 1) or ahead of all (0)");
     inTurn("chain 0", "add 0 0 0 1", 1, "add 0 0 0 2", 2, "add 0 0 1 3", 3, "last 0 0", 50003, "last 0 0", 50001, "last 0 0",
         50002, "last 0 0", EMPTY);
+    inTurn("chain 0", "add 0 1 1 12", 1, "add 0 0 0 1", 2, "add 0 1 0 21", 3, "last 0 1", 12, "last 0 0", 50001, "last 0 1", 21);
     inTurn(things(0, 7), "add 0 1 0 12", 8, "last 0 0", 50005, "append 0 0", ROOM, "sum 0 1", 500012, "sum 0 0", 500030);
   }
 
