@@ -71,7 +71,7 @@ public final class RefusalRuns {
 
   private void go() {
     int all = (1 << n) - 1;
-    int[] points = {MIN, -1, 0, 1, n - 1, n, 10, 32, MAX};
+    int[] points = {MIN, -1, 0, 1, n - 2, n - 1, n, 10, 32, MAX};
     int[] sets = {MIN, -1, 0, 1, 2, all, all + 1, 1 << 10, MAX};
     int[] rows = {MIN, -1, 0, 1, 2, 3, MAX};
     int[] few = {-1, 0, 1, 2};
