@@ -122,6 +122,87 @@ public final class SentenceRuns {
     }
   }
 
+  // ---- section 2
+
+  /** The aboves of each tree; a tree's own point, and one that is not in it, has NONE. */
+  private int[][] aboves(ReachTrees x) {
+    int[][] aboves = new int[n][n];
+    for (int s = 0; s < n; s++) {
+      for (int v = 0; v < n; v++) aboves[s][v] = x.above(s, v);
+    }
+    return aboves;
+  }
+
+  /** How many arcs were looked at behind p, whose above stands already. */
+  private int graftBehind(int[] tree, int s, int p) {
+    int work = 0;
+    for (int q = 0; q < n; q++) {
+      if (!arc[p][q]) continue;
+      work++;
+      if (q != s && tree[q] == ReachTrees.NONE) {
+        tree[q] = p;
+        work += graftBehind(tree, s, q);
+      }
+    }
+    return work;
+  }
+
+  private void grafted() {
+    ReachTrees x = anew();
+    int u = random.nextInt(n);
+    int v = (u + 1 + random.nextInt(n - 1)) % n;
+    int work = x.count(3);
+    int[][] due = aboves(x);
+    if (x.put(u, v) < 0) return;
+    arc[u][v] = true;
+    for (int s = 0; s < n; s++) {
+      if (!reaches[s][u]) continue;
+      work++;
+      if (reaches[s][v]) continue;
+      due[s][v] = u;
+      work += graftBehind(due[s], s, v);
+    }
+    arc[u][v] = false;
+    holdTrees("if v is not in that TREE, it is GRAFTED under u", "put(" + u + ", " + v + ")", x, due, work);
+  }
+
+  private void takenOut() {
+    ReachTrees x = anew();
+    int from = random.nextInt(3) == 0 ? random.nextInt(1 << n) : 1 << random.nextInt(n);
+    int to = random.nextInt(3) == 0 ? random.nextInt(1 << n) : 1 << random.nextInt(n);
+    int work = x.count(3);
+    int[][] due = aboves(x);
+    if (x.take(from, to) < 0) return;
+    boolean[][] before = arc;
+    arc = new boolean[n][n];
+    for (int u = 0; u < n; u++) {
+      for (int v = 0; v < n; v++) arc[u][v] = before[u][v] && (bit(from, u) == 0 || bit(to, v) == 0);
+    }
+    for (int s = 0; s < n; s++) {
+      if (!stood(due[s])) continue;
+      java.util.Arrays.fill(due[s], ReachTrees.NONE);
+      work += graftBehind(due[s], s, s);
+    }
+    arc = before;
+    holdTrees("the TREE is made ANEW. Other TREES stay", "take(" + from + ", " + to + ")", x, due, work);
+  }
+
+  /** On an arc that is not there any more. */
+  private boolean stood(int[] tree) {
+    for (int v = 0; v < n; v++) {
+      if (tree[v] != ReachTrees.NONE && !arc[tree[v]][v]) return true;
+    }
+    return false;
+  }
+
+  private void holdTrees(String sentence, String call, ReachTrees x, int[][] due, int work) {
+    int[][] got = aboves(x);
+    for (int s = 0; s < n; s++) {
+      for (int v = 0; v < n; v++) hold(sentence, "above(" + s + ", " + v + ") behind " + call, got[s][v], due[s][v]);
+    }
+    hold("WORK is 1 more", "count(3) behind " + call, x.count(3), work);
+  }
+
   // ---- section 3
 
   private void reached() {
@@ -372,6 +453,8 @@ public final class SentenceRuns {
     learn();
     trees();
     ways();
+    grafted();
+    takenOut();
     reached();
     needless();
     folds();
